@@ -19,6 +19,7 @@ public final class NoTwoTouch {
     private static final int MOST_SHELVES = 8;
     private static final int NOBODY = 9;
     private static final int PLAYERS = 2;
+    private static final int MOST_INT = 0x7fffffff;
 
     private static final int APART = 0;
     private static final int HEDGED = 1;
@@ -71,12 +72,17 @@ public final class NoTwoTouch {
         if (refusal != 0) {
             return refusal;
         }
-        mind.copyFrom(now);
-        int answer = reader.readInto(mind, shelf);
-        if (answer > 0) {
-            now.copyFrom(mind);
+        int statements = reader.countStatements(shelf);
+        if (statements < 0) {
+            return statements;
         }
-        return answer;
+        mind.copyFrom(now);
+        int fault = reader.carryOut(mind, shelf, statements);
+        if (fault < 0) {
+            return fault;
+        }
+        now.copyFrom(mind);
+        return statements;
     }
 
     public int field(int field, int what) {
@@ -258,7 +264,7 @@ public final class NoTwoTouch {
         mind.copyFrom(now);
         mind.setTouch(a, b, HEDGED);
         int leastBits = 0;
-        int leastLoss = Integer.MAX_VALUE;
+        int leastLoss = MOST_INT;
         for (int bits = 0; bits < 1 << mind.fields; bits++) {
             int loss = mind.worthToOwners(bits);
             if (loss < leastLoss && mind.firstOffence(bits) == NONE) {
@@ -534,7 +540,7 @@ public final class NoTwoTouch {
     }
 
     private static int drawBelow(int seed, int n) {
-        return n > 0 ? (seed & Integer.MAX_VALUE) / 65536 % n : 0;
+        return n > 0 ? (seed & MOST_INT) / 65536 % n : 0;
     }
 
     private void drawInMind(int field, int person) {
@@ -705,7 +711,10 @@ public final class NoTwoTouch {
         }
 
         boolean bars(int a, int b) {
-            int how = touchOf(a, b);
+            if (!isField(a) || !isField(b)) {
+                return false;
+            }
+            int how = touches[a * MOST_FIELDS + b];
             return how == HEDGED || how == CORNERED && cornersCount;
         }
 
@@ -715,6 +724,12 @@ public final class NoTwoTouch {
                 bits |= bars(f, g) ? 1 << g : 0;
             }
             return bits;
+        }
+
+        void writeBars(int[] bars) {
+            for (int f = 0; f < bars.length; f++) {
+                bars[f] = barBits(f);
+            }
         }
 
         boolean barWithin(int bits) {
@@ -731,7 +746,7 @@ public final class NoTwoTouch {
             if (!isPerson(p) || !isPerson(q)) {
                 return false;
             }
-            return p == q || kinCount && (kinOf(p) == q || kinOf(q) == p);
+            return p == q || kinCount && (kin[p] == q || kin[q] == p);
         }
 
         boolean isLawful() {
@@ -832,7 +847,8 @@ public final class NoTwoTouch {
         private int figure = 0;
         private boolean marked = false;
 
-        int readInto(Land land, Shelf text) {
+        /** The fault where the signs can be no land. */
+        int countStatements(Shelf text) {
             at = 0;
             int statements = 0;
             while (statements == 0 || at < text.size && statements < text.size) {
@@ -841,10 +857,10 @@ public final class NoTwoTouch {
                 }
                 statements++;
             }
-            return carryOut(land, text, statements);
+            return statements;
         }
 
-        private int carryOut(Land land, Shelf text, int statements) {
+        int carryOut(Land land, Shelf text, int statements) {
             at = 0;
             for (int n = 0; n < statements; n++) {
                 int place = at;
@@ -853,7 +869,7 @@ public final class NoTwoTouch {
                     return 2 * FAULT - place;
                 }
             }
-            return statements;
+            return 0;
         }
 
         /** Where it answers false, at is the place of the first sign that can't be. */
@@ -884,11 +900,11 @@ public final class NoTwoTouch {
 
         private boolean takeBehindLetter(Shelf text) {
             switch (letter) {
-                case 'f': return takeFirst(text);
-                case 'h': return takeTwo(text) && takeLane(text);
+                case 'f': return takeDigits(text, 1);
+                case 'h': return takeDigits(text, 2) && takeLane(text);
                 case 'p': return takeFigure(text, 3) && takeKin(text);
-                case 'w': return takeTwo(text) && takeSign(text, ' ') && takeFigure(text, 2);
-                default: return takeTwo(text);
+                case 'w': return takeDigits(text, 2) && takeSign(text, ' ') && takeFigure(text, 2);
+                default: return takeDigits(text, 2);
             }
         }
 
@@ -904,21 +920,19 @@ public final class NoTwoTouch {
             return sign >= '0' && sign <= '9';
         }
 
-        private boolean takeFirst(Shelf text) {
-            if (!isDigit(text.at(at))) {
-                return false;
+        private boolean takeDigits(Shelf text, int n) {
+            for (int i = 0; i < n; i++) {
+                int sign = text.at(at);
+                if (!isDigit(sign)) {
+                    return false;
+                }
+                if (i == 0) {
+                    first = sign - '0';
+                } else {
+                    second = sign - '0';
+                }
+                at++;
             }
-            first = text.at(at) - '0';
-            at++;
-            return true;
-        }
-
-        private boolean takeTwo(Shelf text) {
-            if (!takeFirst(text) || !isDigit(text.at(at))) {
-                return false;
-            }
-            second = text.at(at) - '0';
-            at++;
             return true;
         }
 
@@ -929,7 +943,7 @@ public final class NoTwoTouch {
 
         private boolean takeKin(Shelf text) {
             marked = takeSign(text, 'k');
-            return !marked || takeFirst(text);
+            return !marked || takeDigits(text, 1);
         }
 
         private boolean takeFigure(Shelf text, int mostDigits) {
@@ -956,10 +970,10 @@ public final class NoTwoTouch {
         }
 
         private boolean carryOutPerson(Land land) {
-            if (marked && !land.isPerson(first)) {
-                return false;
+            if (!marked) {
+                return land.addPerson(figure, NOBODY);
             }
-            return land.addPerson(figure, marked ? first : NOBODY);
+            return land.isPerson(first) && land.addPerson(figure, first);
         }
 
         private boolean carryOutLaw(Land land) {
@@ -1127,7 +1141,7 @@ public final class NoTwoTouch {
         }
 
         int at(int i) {
-            return isPlace(i) ? elements[i] : 0;
+            return i >= 0 && i < size && i < elements.length ? elements[i] : 0;
         }
 
         boolean set(int i, int v) {
@@ -1243,14 +1257,15 @@ public final class NoTwoTouch {
         }
     }
 
-    /** Goes out over all ownings, each a code of two bits a field, in rings of one change more. */
+    /** Goes out over ownings, each a code of two bits a field, in rings of one change more. */
     private static final class Changes {
         private static final int CODES = 4096;
+        private static final int MOST_REACHED = 729;
         private static final int NOBODY_CODE = 3;
 
-        private final int[] seen = new int[CODES / 32];
-        private final int[] ring = new int[CODES / 32];
-        private final int[] nextRing = new int[CODES / 32];
+        private final int[] seenBits = new int[CODES / 32];
+        private final int[] reached = new int[MOST_REACHED];
+        private int reachedCount = 0;
         private final int[] bars = new int[MOST_FIELDS];
 
         int fewestBetween(Land from, Land to) {
@@ -1259,59 +1274,54 @@ public final class NoTwoTouch {
             if (start == end) {
                 return 0;
             }
-            for (int f = 0; f < bars.length; f++) {
-                bars[f] = from.barBits(f);
+            from.writeBars(bars);
+            if (!isLawful(from, end)) {
+                return NONE;
             }
-            Arrays.fill(seen, 0);
-            Arrays.fill(ring, 0);
-            mark(seen, start);
-            mark(ring, start);
-            for (int steps = 1; steps < CODES; steps++) {
-                if (!widen(from)) {
-                    return NONE;
+            Arrays.fill(seenBits, 0);
+            reachedCount = 0;
+            markSeen(start);
+            reach(start);
+            int done = 0;
+            for (int steps = 1; steps < MOST_REACHED && done < reachedCount; steps++) {
+                int ringEnd = reachedCount;
+                for (; done < ringEnd && done < reached.length; done++) {
+                    widenFrom(from, reached[done], end);
                 }
-                if (isMarked(ring, end)) {
+                if (isSeen(end)) {
                     return steps;
                 }
             }
             return NONE;
         }
 
-        private boolean widen(Land land) {
-            Arrays.fill(nextRing, 0);
-            boolean wider = false;
-            for (int code = 0; code < CODES && code < 1 << 2 * land.fields; code++) {
-                if (isMarked(ring, code)) {
-                    wider |= widenFrom(land, code);
-                }
-            }
-            System.arraycopy(nextRing, 0, ring, 0, ring.length);
-            return wider;
-        }
-
-        private boolean widenFrom(Land land, int code) {
-            boolean wider = false;
+        /**
+         * A field goes to nobody or to its last owner alone: if what lies between its first change
+         * and its last becomes nobody, a chain stays lawful and gets no longer.
+         */
+        private void widenFrom(Land land, int code, int end) {
             for (int f = 0; f < land.fields; f++) {
-                for (int p = 0; p <= land.people; p++) {
-                    int owner = p < land.people ? p : NOBODY_CODE;
-                    int next = code & ~(3 << 2 * f) | owner << 2 * f;
-                    wider |= reach(land, next);
-                }
+                int field = 3 << 2 * f;
+                look(land, code | field);
+                look(land, code & ~field | end & field);
             }
-            return wider;
         }
 
         /** Unlawful ones are marked as seen too, so that each is looked at once. */
-        private boolean reach(Land land, int code) {
-            if (isMarked(seen, code)) {
-                return false;
+        private void look(Land land, int code) {
+            if (!isSeen(code)) {
+                markSeen(code);
+                if (isLawful(land, code)) {
+                    reach(code);
+                }
             }
-            mark(seen, code);
-            if (!isLawful(land, code)) {
-                return false;
+        }
+
+        private void reach(int code) {
+            if (reachedCount >= 0 && reachedCount < reached.length) {
+                reached[reachedCount] = code;
+                reachedCount++;
             }
-            mark(nextRing, code);
-            return true;
         }
 
         private boolean isLawful(Land land, int code) {
@@ -1335,13 +1345,13 @@ public final class NoTwoTouch {
             return code;
         }
 
-        private static boolean isMarked(int[] bits, int code) {
-            return code >= 0 && code < 32 * bits.length && (bits[code / 32] >> code % 32 & 1) == 1;
+        private boolean isSeen(int code) {
+            return code >= 0 && code < CODES && (seenBits[code / 32] >> code % 32 & 1) == 1;
         }
 
-        private static void mark(int[] bits, int code) {
-            if (code >= 0 && code < 32 * bits.length) {
-                bits[code / 32] |= 1 << code % 32;
+        private void markSeen(int code) {
+            if (code >= 0 && code < CODES) {
+                seenBits[code / 32] |= 1 << code % 32;
             }
         }
     }
@@ -1353,19 +1363,13 @@ public final class NoTwoTouch {
         private final int[] bars = new int[MOST_FIELDS];
 
         int winningField(Land land) {
-            setBars(land);
+            land.writeBars(bars);
             return winningFrom(bars, land.fieldBits(0), land.fieldBits(1), land.fieldBits(NOBODY), 0);
         }
 
         int lead(Land land) {
-            setBars(land);
+            land.writeBars(bars);
             return leadFrom(bars, land.fieldBits(0), land.fieldBits(1), land.fieldBits(NOBODY), 0);
-        }
-
-        private void setBars(Land land) {
-            for (int f = 0; f < bars.length; f++) {
-                bars[f] = land.barBits(f);
-            }
         }
 
         private static int winningFrom(int[] bars, int mine, int theirs, int free, int turn) {
