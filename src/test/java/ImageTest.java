@@ -4,6 +4,7 @@ public final class ImageTest {
         noImage();
         emptyImage();
         allIsRestored();
+        nothingLater();
         shelvesStay();
         counts();
         Due.end();
@@ -57,6 +58,21 @@ public final class ImageTest {
         Due.is("restored", x.restore(), 4);
         Due.is("owner 1", x.field(1, 1), 1);
         Due.is("law", x.law(0, 0), 1);
+    }
+
+    private static void nothingLater() {
+        NoTwoTouch x = Due.with("f1;p50;");
+        x.image();
+        Due.is("more", Due.read(x, "f9;h01;p60k0;w01 7;w10 8;o11;"), 6);
+        x.restore();
+        Due.is("others", Due.read(x, "f2;p70;"), 2);
+        Due.is("apart", x.touch(0, 1), 0);
+        Due.is("nobody's", x.field(1, 1), -4);
+        Due.is("acres", x.field(1, 0), 2);
+        Due.is("no kin", x.person(1, 1), -4);
+        Due.is("worth 0 1", x.worth(0, 1), 20);
+        Due.is("worth 1 0", x.worth(1, 0), 10);
+        Due.is("worth 1 1", x.worth(1, 1), 20);
     }
 
     private static void shelvesStay() {
