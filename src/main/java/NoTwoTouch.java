@@ -875,7 +875,6 @@ public final class NoTwoTouch {
         /** Where it answers false, at is the place of the first sign that can't be. */
         private boolean takeStatement(Shelf text) {
             letter = text.at(at);
-            marked = false;
             if (!isLetter()) {
                 return false;
             }

@@ -8,6 +8,7 @@ public final class BestTest {
         best();
         withMusts();
         chain();
+        chainOnWhatIsRestored();
         chainRefusals();
         flood();
         frees();
@@ -33,7 +34,9 @@ public final class BestTest {
         Due.is("field 5", x.fewest(5), 4);
         x.law(0, 1);
         Due.is("all", x.fewest(-1), 6);
-        Due.is("field 5", x.fewest(5), 5);
+        for (int f = 0; f < 6; f++) {
+            Due.is("field " + f, x.fewest(f), f);
+        }
         x = Due.with("f1;f1;f1;f1;h02;h13;h03;p0;p0k0;x01;");
         Due.is("kin do not matter", x.fewest(-1), 2);
         Due.is("its end", x.fewest(1), 0);
@@ -128,6 +131,29 @@ public final class BestTest {
         chainIs(x, 3, 1, 9, 9);
         chainIs(x, -4, 9, 1, 0);
         Due.is("none there", with0().chain(2), 0);
+        x = Due.with("f1;f2;f3;f4;f5;f6;p5;p5;p5;");
+        chainIs(x, 6, 0, 0, 0, 0, 0, 0);
+        chainIs(x, 6, 2, 1, 0, 2, 1, 0);
+        x.owns(0, 2);
+        chainIs(x, 5, 0, 0, 0, 0, 0, 0);
+        chainIs(x, 5, 1, 9, 2, 1, 1, 0);
+        x = Due.with("f1;f1;f1;f1;f1;f1;p5;p5;p5;h01;h12;h23;h34;h45;h50;o00;o11;o02;o13;o04;o15;");
+        chainIs(x, 9, 1, 0, 1, 0, 1, 0);
+        chainIs(x, 8, 2, 0, 1, 0, 1, 0);
+        chainIs(x, 7, 2, 0, 9, 0, 1, 9);
+        chainIs(x, -4, 2, 0, 9, 0, 1, 1);
+        // The one that bars both others is to be sold first, and comes again.
+        x = Due.with("f1;f1;f1;p5;p5;h01;h02;o00;o01;o02;");
+        chainIs(x, 4, 0, 1, 1);
+    }
+
+    private static void chainOnWhatIsRestored() {
+        NoTwoTouch x = Due.with("f1;f1;p5;");
+        x.image();
+        Due.read(x, "f1;h01;p5;");
+        x.restore();
+        chainIs(x, 2, 0, 0);
+        chainIs(x, -13, 1, 0);
     }
 
     private static NoTwoTouch with0() {
@@ -192,5 +218,8 @@ public final class BestTest {
         x = Due.with("f1;f1;f1;h01;h12;h02;p5;o00;");
         Due.is("a triangle", x.frees(), 1);
         Due.is("nobody", Due.with("f1;f1;h01;").frees(), -4);
+        x = Due.with("f1;f1;p5;");
+        Due.is("a flood in mind", x.flood(0, 1), 0);
+        Due.is("is none", x.frees(), -4);
     }
 }

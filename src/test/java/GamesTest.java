@@ -77,6 +77,8 @@ public final class GamesTest {
         deedsAre(x, 0, 0, 0, 0, 5, 0, 1, 6);
         deedsAre(x, 0, 0, 0, 0, 5, 1, 1, 5);
         deedsAre(x, 1, 1, 0, 0, 9, 1, 0, 9);
+        deedsAre(x, 1, 1, 0, 2, 9, 1, 2, 9);
+        deedsAre(x, 0, 0, 0, 1, 9, 1, 2, 9);
         deedsAre(x, 0, 0, 0, 0, 9, 0, 0, 9);
         deedsAre(x, 0, 0, 0, 0, 9, 0, 2, 9);
         deedsAre(x, 0, 0, 0, 1, 9, 0, 2, 9);

@@ -126,6 +126,10 @@ public final class ShelvesTest {
         Due.is("none", x.copy(0, 2, 1, 2, 0), 0);
         Due.is("all", x.copy(1, 0, 0, 2, 3), 3);
         rowIs(x, 0, 1, 2, 6, 4, 5);
+        x.row(4, 2, 0);
+        x.row(5, 2, 0);
+        Due.is("none of none", x.copy(4, 0, 5, 0, 0), 0);
+        Due.is("one of none", x.copy(4, 0, 5, 0, 1), -13);
         x.row(4, 2, 1);
         x.row(5, 2, 1);
         x.put(4, 0, 70000);
