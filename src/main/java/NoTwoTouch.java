@@ -515,16 +515,16 @@ public final class NoTwoTouch {
     }
 
     private int mostBits(int person) {
-        int barredBits = 0;
+        int othersBits = 0;
         for (int f = 0; f < now.fields; f++) {
             int owner = now.ownerOf(f);
-            barredBits |= owner == NOBODY || owner == person ? 0 : 1 << f;
+            othersBits |= owner == NOBODY || owner == person ? 0 : 1 << f;
         }
         int mostBits = 0;
         int mostWorth = 0;
         for (int bits = 0; bits < 1 << now.fields; bits++) {
             int worth = now.worthOfBits(person, bits);
-            if (worth > mostWorth && (bits & barredBits) == 0 && !now.barWithin(bits)) {
+            if (worth > mostWorth && (bits & othersBits) == 0 && !now.barWithin(bits)) {
                 mostWorth = worth;
                 mostBits = bits;
             }
