@@ -57,6 +57,14 @@ public final class LawAndMovesTest {
         Due.is("1 and 3", x.firstUnlawful(), 13);
         x.owns(9, 3);
         Due.is("none again", x.firstUnlawful(), -4);
+        Due.read(x, "h03l;c02;");
+        x.owns(9, 1);
+        x.owns(0, 0);
+        x.owns(0, 3);
+        Due.is("a lane", x.firstUnlawful(), -4);
+        x.owns(1, 2);
+        x.law(0, 1);
+        Due.is("a corner, of kin", x.firstUnlawful(), 2);
     }
 
     private static void mayIs(NoTwoTouch x, int k, int wfog, int may, int wanted) {
