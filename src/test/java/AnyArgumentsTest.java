@@ -88,7 +88,7 @@ public final class AnyArgumentsTest {
 
     private static void call(NoTwoTouch x, Method m, Object[] arguments) throws IllegalAccessException {
         String name = m.getName();
-        String before = state(x);
+        String before = State.of(x);
         long answer = 0;
         try {
             answer = ((Number) m.invoke(x, arguments)).longValue();
@@ -103,42 +103,7 @@ public final class AnyArgumentsTest {
             changes |= changing.equals(name);
         }
         if (!changes || answer < 0) {
-            Due.is(name + " changes nothing", state(x).equals(before) ? 1 : 0, 1);
+            Due.is(name + " changes nothing", State.of(x).equals(before) ? 1 : 0, 1);
         }
-    }
-
-    /** All that calls tell of the state, but for the image. */
-    private static String state(NoTwoTouch x) {
-        StringBuilder s = new StringBuilder();
-        for (int what = 0; what < 8; what++) {
-            s.append(x.count(what)).append(' ');
-        }
-        for (int a = 0; a < 6; a++) {
-            s.append(x.field(a, 0)).append(',').append(x.field(a, 1)).append(',').append(x.field(a, 2)).append(' ');
-            for (int b = 0; b < a; b++) {
-                s.append(x.touch(a, b));
-            }
-            for (int p = 0; p < 3; p++) {
-                s.append(' ').append(x.worth(p, a));
-            }
-        }
-        for (int p = 0; p < 3; p++) {
-            s.append(' ').append(x.person(p, 0)).append(',').append(x.person(p, 1));
-        }
-        for (int what = 0; what < 2; what++) {
-            int is = x.law(what, 0);
-            x.law(what, is);
-            s.append(" law ").append(is);
-        }
-        for (int d = 0; d < 8; d++) {
-            s.append(' ').append(x.fee(d)).append(',').append(x.toss(d)).append(',').append(x.may(d, 1));
-            for (int i = 0; i < 101; i++) {
-                if (Due.thrownByElement(x, d, i) != 0) {
-                    break;
-                }
-                s.append(' ').append(x.element(d, i));
-            }
-        }
-        return s.toString();
     }
 }
