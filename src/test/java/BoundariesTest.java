@@ -12,6 +12,7 @@ public final class BoundariesTest {
         mostOfNothing();
         mostOfLittle();
         bestOfNothing();
+        bestOfSix();
         bestIsFirstByFields();
         withMustsOfAll();
         chainOfNobody();
@@ -138,6 +139,17 @@ public final class BoundariesTest {
         Due.is("nobody there", x.best(-1), 0);
         Due.is("nobody", x.best(5), -4);
         Due.is("nobody", x.withMusts(5), -4);
+    }
+
+    private static void bestOfSix() {
+        NoTwoTouch x = Due.with(SIX + "p5;p5;w15 11;");
+        Due.is("all six", x.best(-1), 61);
+        Due.is("the first", x.best(0), 0);
+        Due.is("the last", x.best(5), 1);
+        Due.is("all six", x.withMusts(-1), 61);
+        x.owns(0, 5);
+        Due.is("the last stays", x.withMusts(-1), 60);
+        Due.is("the last stays", x.withMusts(5), 0);
     }
 
     private static void bestIsFirstByFields() {
