@@ -39,11 +39,22 @@ public final class AnyArgumentsTest {
         for (int i = 0; i < face.size() && i < FACE.length; i++) {
             String name = face.get(i).getName() + " " + face.get(i).getParameterCount();
             Due.is(name + " for " + FACE[i], name.equals(FACE[i]) ? 1 : 0, 1);
-            boolean answersLong = face.get(i).getReturnType() == long.class;
-            Due.is(name + " answers long", answersLong ? 1 : 0, name.equals("element 2") ? 1 : 0);
+            boolean element = name.equals("element 2");
+            Due.is(name + " answers as told", face.get(i).getReturnType() == (element ? long.class : int.class) ? 1 : 0, 1);
+            Due.is(name + " is of an object", Modifier.isStatic(face.get(i).getModifiers()) ? 0 : 1, 1);
+            List<Class<?>> thrown = List.of(face.get(i).getExceptionTypes());
+            List<Class<?>> due = element ? List.of(IllegalArgumentException.class, IllegalStateException.class) : List.of();
+            Due.is(name + " throws as told", thrown.equals(due) ? 1 : 0, 1);
+            for (Class<?> parameter : face.get(i).getParameterTypes()) {
+                Due.is(name + " takes ints", parameter == int.class ? 1 : 0, 1);
+            }
         }
+        int modifiers = NoTwoTouch.class.getModifiers();
+        Due.is("public and final", Modifier.isPublic(modifiers) && Modifier.isFinal(modifiers) ? 1 : 0, 1);
         Due.is("public fields", NoTwoTouch.class.getFields().length, 0);
-        Due.is("constructors", NoTwoTouch.class.getConstructors().length, 1);
+        Due.is("constructors", NoTwoTouch.class.getDeclaredConstructors().length, 1);
+        Due.is("a public one", NoTwoTouch.class.getConstructors().length, 1);
+        Due.is("of nothing", NoTwoTouch.class.getDeclaredConstructors()[0].getParameterCount(), 0);
         return face;
     }
 

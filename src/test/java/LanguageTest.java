@@ -18,10 +18,21 @@ public final class LanguageTest {
         "\\bthrow (?!new )", "\\bInteger\\.(?!bitCount\\()", "\\bObject\\b", "\\bdouble\\b", "\\bfloat\\b",
     };
 
+    /** The face in the document's order, with what the interface says ahead of its calls. */
+    private static final String[] ORDER = {
+        "lands", "land", "field", "touch", "person", "worth", "law", "owns",
+        "the law, moves", "lawful", "firstUnlawful", "may", "move", "judge",
+        "the fewest, the most, the best", "fewest", "most", "best", "withMusts", "chain", "flood", "frees",
+        "games, deeds, lots", "game", "value", "deeds", "lots",
+        "the image, what is told", "image", "restore", "count",
+        "shelves", "keep", "row", "put", "element", "copy", "fee", "toss",
+    };
+
     public static void main(String[] args) throws IOException {
         String source = Files.readString(Path.of("src/main/java/NoTwoTouch.java"));
         texts(withoutComments(source));
         methodLengths(source);
+        order(source);
         List<Class<?>> classes = new ArrayList<>(List.of(NoTwoTouch.class.getDeclaredClasses()));
         for (Class<?> c : classes) {
             int modifiers = c.getModifiers();
@@ -53,6 +64,14 @@ public final class LanguageTest {
             }
         }
         Due.is("signs are 1 to 127", source.chars().allMatch(c -> c > 0 && c < 128) ? 1 : 0, 1);
+    }
+
+    private static void order(String source) {
+        Matcher m = Pattern.compile("(?m)^    (?:// ---- (.*)|public (?:int|long) (\\w+)\\(.*)$").matcher(source);
+        for (String due : ORDER) {
+            String found = m.find() ? m.group(1) != null ? m.group(1) : m.group(2) : "nothing";
+            Due.is(found + " for " + due, found.equals(due) ? 1 : 0, 1);
+        }
     }
 
     /** A method starts with a line that ends in ") {" or "throws .. {", and ends at a brace of its indent. */
