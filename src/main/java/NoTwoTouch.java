@@ -1136,7 +1136,7 @@ public final class NoTwoTouch {
         }
 
         boolean hasPlaces(int from, int n) {
-            return from >= 0 && n >= 0 && from <= size && n <= size - from;
+            return from >= 0 && n >= 0 && from <= size && n <= size - from && size <= elements.length;
         }
 
         int at(int i) {

@@ -6,8 +6,8 @@ import java.util.List;
 import java.util.Set;
 
 /**
- * The document once more, written from its words alone and in the plainest way: all that could be is gone
- * through. Its calls bear the names of the face, so that a run can be asked of both.
+ * The document once more, sentence by sentence and in the plainest way: all that could be is gone through.
+ * Its calls bear the names of the face, so that a run can be asked of both.
  */
 final class Model {
     private static final int NOBODY = 9;
